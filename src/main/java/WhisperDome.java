@@ -18,7 +18,6 @@ public final class WhisperDome {
     private static final int PERSON = 0, DEAF = 1, GOSSIP = 2, MUTE = 3, CRIER = 4;
 
     private static final int PLACE_FACTS = 6;
-    private static final int PERSON_FACTS = 4;
     private static final int COUNTS = 8;
 
     private final int[] page = new int[MOST_LETTERS];
@@ -457,11 +456,10 @@ public final class WhisperDome {
     }
 
     private long digestPerson(long start, int person) {
-        long h = start;
-        for (int what = 0; what < PERSON_FACTS; what++) {
-            h = mix(h, about(person, what));
-        }
-        hearing.spread(plan, now, person);
+        long h = mix(start, now.kinds[person]);
+        h = mix(h, now.places[person]);
+        h = mix(h, now.known[person]);
+        h = mix(h, hearing.spread(plan, now, person));
         for (int to = 0; to < now.people; to++) {
             h = mix(h, hearing.minutes[to]);
         }
@@ -601,8 +599,6 @@ public final class WhisperDome {
         /** Who hears it, as bits. What anybody knew before plays no part: each saying is heard alike. */
         int spread(Plan plan, Scene scene, int speaker) {
             Arrays.fill(minutes, NONE);
-            hearers = 0;
-            waiting = 0;
             if (scene.kinds[speaker] == MUTE) {
                 return 0;
             }

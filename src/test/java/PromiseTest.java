@@ -43,6 +43,7 @@ public final class PromiseTest {
         who();
         ask();
         days();
+        daysOfThree();
         daysChangeNothing();
         image();
         restore();
@@ -530,6 +531,16 @@ public final class PromiseTest {
         is("18: a deaf one heard but himself", x.who(), 0b100000);
         is("18: nobody is there", under(RING).who(), 0);
         still(x, "18: nothing is changed", x::who, 0b100000);
+        WhisperDome y = under(RING, PERSON, 0, PERSON, 1, PERSON, 2);
+        y.trial(0, true);
+        y.trial(1, true);
+        is("18: two heard it", y.who(), 1);
+        y.trial(2, true);
+        is("18: not all three", y.who(), 0);
+        y.forget();
+        y.trial(0, false);
+        y.trial(2, false);
+        is("18: two did not", y.who(), 0);
     }
 
     private static void ask() {
@@ -579,6 +590,14 @@ public final class PromiseTest {
         WhisperDome none = under(SELF);
         still(none, "20: no people", () -> none.days(1, 1, 0), STATE);
         still(none, "20: no people, outside", () -> none.days(0, 1, 0), OUTSIDE);
+    }
+
+    /** Of 3, by the seed 7: 1 goes to 6, 2 says 4; then 2 goes to 5, 0 says 0. */
+    private static void daysOfThree() {
+        WhisperDome x = under(PAIRS, PERSON, 5, PERSON, 1, GOSSIP, 7);
+        is("20: days(1, 7, 0)", x.days(1, 7, 0), 2);
+        is("20: days(2, 7, 0)", x.days(2, 7, 0), 4);
+        is("20: days(2, 7, 2)", x.days(2, 7, 2), 2083449087);
     }
 
     private static void daysChangeNothing() {
@@ -634,6 +653,7 @@ public final class PromiseTest {
         x.screens(0, 1, 0);
         is("22: restore() again", x.restore(), 2);
         is("22: trials", x.count(4), 1);
+        is("22: who by them", x.who(), 1);
         is("22: the page stays", x.count(5), 2);
         is("22: screens() stay done", x.count(7), 1);
         x.blank();
