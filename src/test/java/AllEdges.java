@@ -118,9 +118,10 @@ final class AllEdges extends Bench {
         WhisperDome x = imaged();
         x.say(0, 4);
         x.cloth(7, true);
-        x.trial(1, true);
+        x.trial(0, true);
         x.image();
         long before = x.digest();
+        is("who by the trial", x.who(), 1);
         x.move(1, 6);
         x.restore();
         is("places", x.digest(), before);
@@ -137,6 +138,14 @@ final class AllEdges extends Bench {
         x.forget();
         x.restore();
         is("trials that went", x.digest(), before);
+        x.forget();
+        x.trial(1, false);
+        x.image();
+        is("who by that one, nobody", x.who(), 0);
+        x.forget();
+        x.restore();
+        is("who by that one again", x.who(), 0);
+        is("how many trials", x.count(4), 1);
     }
 
     static void promise22WhatAnImageDoesNotKeep() {

@@ -82,6 +82,16 @@ final class TermEdges extends Bench {
         }
     }
 
+    static void promise00SeveralHandOnAtOnce() {
+        // of the two at 1 the CRIER alone is heard behind cloth, the GOSSIP ahead of him is not
+        WhisperDome x = under(RING, PERSON, 0, CRIER, 1, GOSSIP, 1, PERSON, 2);
+        x.cloth(2, true);
+        is("by the CRIER, the first", x.hears(0, 3), 3);
+        WhisperDome y = under(RING, PERSON, 0, GOSSIP, 1, CRIER, 1, PERSON, 2);
+        y.cloth(2, true);
+        is("by the CRIER, the second", y.hears(0, 3), 3);
+    }
+
     static void promise00TheWayRoundEnds() {
         WhisperDome x = under("bcdefagh;99999999", GOSSIP, 0, GOSSIP, 1, GOSSIP, 2, GOSSIP, 3, GOSSIP, 4, GOSSIP, 5);
         for (int from = 0; from < 6; from++) {
@@ -131,6 +141,37 @@ final class TermEdges extends Bench {
         x.cloth(1, true);
         x.say(0, 8);
         is("he knows what he heard, not what he did not", x.about(1, 2), 128);
+    }
+
+    /** Whatever is asked in whatever state: no call throws, and each answer is a number, NONE or a refusal. */
+    static void promise00AnyNumbersInAnyState() {
+        int[] numbers = {MIN, MIN + 1, -105, -1, 0, 1, 2, 3, 4, 5, 6, 7, 8, 9, 10, 20, 31, 32, 60, 61, 126, 127, MAX - 1, MAX};
+        for (int one : numbers) {
+            for (int other : numbers) {
+                for (WhisperDome x : new WhisperDome[] {bare(), fullPage(), empty(), busy(), full()}) {
+                    askAll(x, one, other, numbers);
+                }
+            }
+        }
+    }
+
+    private static void askAll(WhisperDome x, int one, int other, int[] numbers) {
+        boolean is = other > 4;
+        answers("the dome", x.letter(one), x.fault(), x.place(one, other), x.cloth(one, is));
+        answers("people", x.person(one, other), x.about(one, other), x.as(one, other), x.move(one, other),
+                x.say(one, other), x.hears(one, other));
+        answers("what would be", x.stand(one, other), x.trial(one, is), x.who(), x.ask(), x.count(one));
+        for (int third : numbers) {
+            answers("screens, days", x.screens(one, other, third), x.days(one, other, third));
+        }
+        answers("what is told of all", x.image(), x.restore(), x.forget(), x.blank(), x.dome());
+        x.digest();
+    }
+
+    private static void answers(String of, int... got) {
+        for (int answer : got) {
+            due.holds(of + ": " + answer + " is an answer", answer >= NONE || answer <= UNKNOWN && answer >= FULL);
+        }
     }
 
     static void promise00TheFirstRefusalOfEachCall() {

@@ -1,3 +1,5 @@
+import java.math.BigInteger;
+
 /** Promises 16 to 20: trials, who said it, whom to ask, and days by a seed. */
 final class TrialEdges extends Bench {
     private static final int[] NOT_OF_THREE = {-1, 3, MIN, MAX};
@@ -23,6 +25,17 @@ final class TrialEdges extends Bench {
             last = (1103515245L * last + 12345L) % (1L << 31);
         }
         return last;
+    }
+
+    /** The seed from which so many draws lead to this one. */
+    private static long seedAhead(long seed, int draws) {
+        BigInteger whole = BigInteger.ONE.shiftLeft(31);
+        BigInteger back = BigInteger.valueOf(1103515245L).modInverse(whole);
+        BigInteger first = BigInteger.valueOf(seed);
+        for (int draw = 0; draw < draws; draw++) {
+            first = first.subtract(BigInteger.valueOf(12345L)).multiply(back).mod(whole);
+        }
+        return first.longValue();
     }
 
     // ---- promise 16
@@ -151,6 +164,20 @@ final class TrialEdges extends Bench {
         unchanged(Bench::busy, "who() changes nothing", y -> y.who(), 1);
     }
 
+    static void promise18ManyOfEitherSort() {
+        WhisperDome x = sixApart();
+        for (int number = 0; number < 5; number++) {
+            x.trial(number, false);
+            is("not 0 to " + number, x.who(), 63 >> number + 1 << number + 1);
+        }
+        x.forget();
+        for (int number = 0; number < 6; number++) {
+            x.move(number, 7);
+            x.trial(number, true);
+            is("heard by 0 to " + number, x.who(), (2 << number) - 1);
+        }
+    }
+
     // ---- promise 19
 
     static void promise19NoDomeIsRefused() {
@@ -183,6 +210,14 @@ final class TrialEdges extends Bench {
         // of 4: the DEAF one tells 1 from 3, each of the two at 0 tells 2 from 2
         is("the first of the two", x.ask(), 1);
         unchanged(Bench::busy, "ask() changes nothing", y -> y.ask(), 0);
+    }
+
+    static void promise19AllSixAreLeftAtWorst() {
+        WhisperDome x = under(SELF, PERSON, 7, PERSON, 7, PERSON, 7, PERSON, 7, PERSON, 7, PERSON, 7);
+        is("whoever is asked has heard it, so the least", x.ask(), 0);
+        is("any of six", x.who(), 63);
+        x.trial(0, false);
+        is("nobody, if one has not", x.ask(), NONE);
     }
 
     static void promise19TheLastMayBeTheBest() {
@@ -248,6 +283,36 @@ final class TrialEdges extends Bench {
                 is(call, got, seedBehind(seed, 4 * times));
             }
         }
+    }
+
+    /** A word is the fourth draw of a day; one who knows it already tells by 0 that it was this one. */
+    private static void drawnWord(long last, int word) {
+        WhisperDome x = under(RING, PERSON, 0);
+        int seed = (int) seedAhead(last, 4);
+        is("the seed then", x.days(1, seed, 2), last);
+        for (int known = 0; known < 10; known++) {
+            WhisperDome y = under(RING, PERSON, 0);
+            y.say(0, known);
+            is("by " + last + " the word " + known + " is new", y.days(1, seed, 0), known == word ? 0 : 1);
+        }
+    }
+
+    static void promise20ADrawIsRoundedDown() {
+        drawnWord(0, 0);
+        drawnWord(65535, 0);
+        drawnWord(65536, 1);
+        drawnWord(131071, 1);
+        drawnWord(131072, 2);
+        drawnWord(2147418111, 6);
+        drawnWord(2147418112, 7);
+        drawnWord(2147483647, 7);
+    }
+
+    static void promise20ADrawIsARest() {
+        drawnWord(10 * 65536 - 1, 9);
+        drawnWord(10 * 65536, 0);
+        drawnWord(20 * 65536 - 1, 9);
+        drawnWord(20 * 65536, 0);
     }
 
     static void promise20OneOfOne() {
