@@ -226,6 +226,14 @@ final class TrialEdges extends Bench {
         is("ask()", x.ask(), 5);
     }
 
+    static void promise19AnyOfPeopleMayBeAsked() {
+        is("a DEAF one, who heard it if he said it", under(RING, DEAF, 0, PERSON, 5).ask(), 0);
+        is("a MUTE one, who heard it if 1 said it", under(RING, MUTE, 1, PERSON, 0, PERSON, 5).ask(), 0);
+        WhisperDome x = under(RING, PERSON, 0, PERSON, 5);
+        x.trial(0, true);
+        is("one who was asked", x.ask(), 0);
+    }
+
     // ---- promise 20
 
     static void promise20TimesFrom1To60() {
@@ -325,6 +333,16 @@ final class TrialEdges extends Bench {
         x.say(0, (int) first);
         is("he knew it", x.days(1, 0, 0), 0);
         is("and knows it still", x.days(1, 0, 1), 1);
+    }
+
+    static void promise20TheSameOneMayGoAndSay() {
+        // by the seed 0 the draws are 0, 4, 0, 7: 0 goes to 4 and says 7 there, which is heard at 5
+        WhisperDome x = under(RING, PERSON, 0, PERSON, 5);
+        is("both get to know it", x.days(1, 0, 0), 2);
+        is("1 is elsewhere", under(RING, PERSON, 0, PERSON, 1).days(1, 0, 0), 1);
+        // by the seed 1 they are 0, 6, 1, 5: 0 goes to 6, where 1 at 5 is heard
+        is("another one says it", x.days(1, 1, 0), 2);
+        is("and nobody knew anything else", x.days(1, 1, 1), 2);
     }
 
     static void promise20MuteOnesAlone() {

@@ -73,6 +73,18 @@ final class WouldBeEdges extends Bench {
         is("the first time", x.screens(0, 1, 0), 1);
     }
 
+    static void promise14AnotherDomeDoesNotGiveMore() {
+        WhisperDome x = under(RING, PERSON, 0, PERSON, 1);
+        for (int many = 1; many <= 20; many++) {
+            due.holds("the time " + many, x.screens(0, 1, 0) != STATE);
+        }
+        type(x, RING).dome();
+        x.person(PERSON, 0);
+        x.person(PERSON, 1);
+        is("done under both", x.count(7), 20);
+        is("a time more", x.screens(0, 1, 0), STATE);
+    }
+
     static void promise14UnknownThenOutsideThenState() {
         unchanged(Bench::busy, "screens(3, 0, 2)", x -> x.screens(3, 0, 2), UNKNOWN);
         unchanged(Bench::busy, "screens(0, 0, 2)", x -> x.screens(0, 0, 2), UNKNOWN);
