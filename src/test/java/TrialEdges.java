@@ -345,6 +345,19 @@ final class TrialEdges extends Bench {
         is("and nobody knew anything else", x.days(1, 1, 1), 2);
     }
 
+    static void promise20ClothHangsAsItDoes() {
+        // by the seed 0 the one who goes to 4 says 7 there, which is heard at 5
+        WhisperDome x = under(RING, PERSON, 0, PERSON, 5);
+        x.cloth(5, true);
+        is("it keeps the word from 5", x.days(1, 0, 0), 1);
+        x.cloth(5, false);
+        x.cloth(4, true);
+        is("where it is said it keeps nothing", x.days(1, 0, 0), 2);
+        WhisperDome y = under(RING, CRIER, 0, PERSON, 5);
+        y.cloth(5, true);
+        is("nor does it what a CRIER says", y.days(1, 0, 0), 2);
+    }
+
     static void promise20MuteOnesAlone() {
         WhisperDome x = under(SELF, MUTE, 0, MUTE, 0);
         is("nobody says anything", x.days(60, 7, 0), 0);
